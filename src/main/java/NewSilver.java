@@ -658,7 +658,6 @@ public final class NewSilver {
 
         void vanish() {
             melted = true;
-            town = NONE;
             mint = NONE;
         }
 
@@ -790,7 +789,7 @@ public final class NewSilver {
         }
 
         private int digitHere() {
-            boolean digit = at < length && within(bytes[at], '0', '9');
+            boolean digit = at < length && bytes[at] >= '0' && bytes[at] <= '9';
             return digit ? bytes[at] - '0' : NONE;
         }
     }
@@ -889,41 +888,38 @@ public final class NewSilver {
             Arrays.fill(townCost, FAR);
             Arrays.fill(townBefore, NONE);
             Arrays.fill(mintBefore, NONE);
-            boolean shorter = true;
-            for (int round = 0; round < MINTS + TOWNS && shorter; round++) {
-                shorter = false;
+            // Towns come nearer only where a mint did, so a round that changes no mint is the last.
+            boolean nearer = true;
+            for (int round = 0; round < MINTS + TOWNS && nearer; round++) {
+                nearer = false;
                 for (int t = 0; t < TOWNS; t++) {
-                    boolean forth = goOn(t, days);
-                    boolean back = takeBack(t, days);
-                    shorter = shorter || forth || back;
+                    goOn(t, days);
+                    nearer = takeBack(t, days) || nearer;
                 }
             }
         }
 
-        private boolean goOn(int t, int[] days) {
-            boolean shorter = false;
+        private void goOn(int t, int[] days) {
             for (int m = 0; m < MINTS; m++) {
                 int cost = mintCost[m] + days[t * MINTS + m];
                 if (mintCost[m] < FAR && cost < townCost[t]) {
                     townCost[t] = cost;
                     mintBefore[t] = m;
-                    shorter = true;
                 }
             }
-            return shorter;
         }
 
         private boolean takeBack(int t, int[] days) {
-            boolean shorter = false;
+            boolean nearer = false;
             for (int m = 0; m < MINTS; m++) {
                 int cost = townCost[t] - days[t * MINTS + m];
                 if (carried[t * MINTS + m] > 0 && townCost[t] < FAR && cost < mintCost[m]) {
                     mintCost[m] = cost;
                     townBefore[m] = t;
-                    shorter = true;
+                    nearer = true;
                 }
             }
-            return shorter;
+            return nearer;
         }
 
         private int cheapestTown() {

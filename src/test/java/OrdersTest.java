@@ -11,6 +11,7 @@ public final class OrdersTest {
         feedRefused();
         faults();
         faultsAgainstPattern();
+        bytesOfEarlierTapes();
         ordersFull();
         told();
         inForce();
@@ -147,6 +148,18 @@ public final class OrdersTest {
             if (text.length() > 0 && text.length() <= 160) {
                 fault(text.toString(), faultByPattern(text.toString()));
             }
+        }
+    }
+
+    /** What stood on the tape before is not read behind the end of a shorter one. */
+    private static void bytesOfEarlierTapes() {
+        String text = "0 is 123 by weight 4567;1 is out;2 is 5;3 is 6";
+        for (int n = 1; n < text.length(); n++) {
+            NewSilver x = new NewSilver();
+            Check.order(x, text);
+            String begun = text.substring(0, n);
+            int fault = faultByPattern(begun);
+            Check.due("order '" + begun + "' after a longer one", Check.order(x, begun), fault < 0 ? 1 : -10 - fault);
         }
     }
 

@@ -44,6 +44,27 @@ public final class PaymentsTest {
         Check.due("a penny more", withLots().pay(0, 61), 2);
         Check.due("all", withLots().pay(0, 480), 5);
         Check.due("more than all", withLots().pay(0, 481), Check.STATE);
+        allThirty();
+        withoutWorth();
+    }
+
+    private static void allThirty() {
+        NewSilver x = Check.withSorts();
+        for (int l = 0; l < 30; l++) {
+            x.lot(Check.PLAIN, 0, 1, 80, 0, 0);
+        }
+        Check.due("more than thirty lots", x.pay(0, 361), Check.STATE);
+        Check.due("thirty lots", x.pay(0, 360), 30);
+        Check.due("the last of them", x.paid(29), 29);
+        Check.due("in chests", x.count(6), 30);
+    }
+
+    private static void withoutWorth() {
+        NewSilver x = Check.withSorts();
+        x.lot(Check.PLATE, 0, 0, 10, 0, 0);
+        x.lot(Check.PLAIN, 0, 1, 80, 0, 0);
+        Check.due("plate of copper does not pay", x.pay(0, 1), 1);
+        Check.due("the coin does", x.paid(0), 1);
     }
 
     private static void equalOnes() {

@@ -30,6 +30,8 @@ public final class WeightsAndFlowsTest {
         }
         x.open(2, 700);
         Check.due("of a clipped bag", x.drawn(2, 4, 4, 0), 10);
+        x.lot(Check.PLAIN, 1, 1, 43, 0, 0);
+        Check.due("of one coin", x.drawn(5, 0, 0, 1), 46);
     }
 
     private static void drawnRefused() {
