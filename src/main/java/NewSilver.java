@@ -135,16 +135,15 @@ public final class NewSilver {
     }
 
     public int order() {
-        // A fault is told before FULL, so the tape is read even if no more orders have room.
-        int fault = tape.findFault();
-        if (fault != NONE) {
-            tape.length = 0;
-            return FIRST_FAULT - fault;
-        }
+        // FULL is a refusal and a fault is none: a tape that is refused is not read, and stays.
         if (orderCount >= ORDERS) {
             return FULL;
         }
+        int fault = tape.findFault();
         tape.length = 0;
+        if (fault != NONE) {
+            return FIRST_FAULT - fault;
+        }
         orders[orderCount] = new Order(tape.pence, tape.grains);
         return orderCount++;
     }

@@ -13,6 +13,7 @@ public final class OrdersTest {
         faultsAgainstPattern();
         bytesOfEarlierTapes();
         ordersFull();
+        faultBeforeTheLast();
         told();
         inForce();
         passing();
@@ -168,11 +169,27 @@ public final class OrdersTest {
         for (int o = 0; o < 10; o++) {
             Check.due("order " + o, Check.order(x, "0 is " + o), o);
         }
-        Check.due("a faulty one more", Check.order(x, "0 is x"), -15);
-        Check.due("the tape is empty", x.count(7), 0);
+        Check.due("an empty tape", x.order(), Check.FULL);
+        Check.due("the tape is as it was", x.count(7), 0);
         Check.due("an order more", Check.order(x, "0 is 5"), Check.FULL);
         Check.due("the tape is as it was", x.count(7), 6);
+        Check.due("with a fault", Check.order(x, "x"), Check.FULL);
+        Check.due("the tape is as it was", x.count(7), 7);
+        Check.due("asked again", x.order(), Check.FULL);
+        Check.due("bytes come behind it", x.feed('9', 1), 8);
         Check.due("orders", x.count(2), 10);
+    }
+
+    /** A fault takes no number, so the tenth order still has room after one. */
+    private static void faultBeforeTheLast() {
+        NewSilver x = new NewSilver();
+        for (int o = 0; o < 9; o++) {
+            Check.due("order " + o, Check.order(x, "0 is " + o), o);
+        }
+        Check.due("with a fault", Check.order(x, "0 is x"), -15);
+        Check.due("the tape is empty", x.count(7), 0);
+        Check.due("the tenth", Check.order(x, "0 is 9"), 9);
+        Check.due("one more", Check.order(x, "0 is 9"), Check.FULL);
     }
 
     private static void told() {
