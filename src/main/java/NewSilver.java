@@ -81,7 +81,7 @@ public final class NewSilver {
         if (!within(weight, x.coins, x.coins * x.sort.most)) {
             return BAD;
         }
-        if (x.kind != BAG) {
+        if (!x.isSealedBag()) {
             return STATE;
         }
         boolean clipped = weight < x.coins * x.sort.least;
@@ -649,6 +649,11 @@ public final class NewSilver {
 
         long silverHeld() {
             return (long) weight * fine;
+        }
+
+        /** What is melted lies in a pot with the weight it had: no bag is left to be opened. */
+        boolean isSealedBag() {
+            return kind == BAG && !melted;
         }
 
         boolean isOnRoad(int day) {

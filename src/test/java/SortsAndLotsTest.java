@@ -7,6 +7,8 @@ public final class SortsAndLotsTest {
         lotsOfEachKind();
         lotsRefused();
         bags();
+        meltedBags();
+        bagsElsewhere();
         about();
         silver();
         days();
@@ -136,6 +138,44 @@ public final class SortsAndLotsTest {
         Check.due("plate, bad", x.open(4, 1), Check.BAD);
         Check.due("plate", x.open(4, 0), Check.STATE);
         Check.due("least of all", bagOpened(10), 1);
+    }
+
+    private static void meltedBags() {
+        NewSilver x = Check.withSorts();
+        x.lot(Check.BAG, 0, 10, 860, 0, 0);
+        x.lot(Check.BAG, 0, 10, 860, 0, 0);
+        x.today(x.send(0, 0));
+        x.melt(0);
+        Check.due("a melted bag, no such lot", x.open(2, 860), Check.NONE);
+        Check.due("a melted bag, too light", x.open(0, 9), Check.BAD);
+        Check.due("a melted bag, too heavy", x.open(0, 921), Check.BAD);
+        for (int weight : new int[] {10, 799, 800, 860, 920}) {
+            Check.due("a melted bag", x.open(0, weight), Check.STATE);
+        }
+        Check.due("its kind stays", x.about(0, 0), Check.BAG);
+        Check.due("its weight stays", x.about(0, 3), 860);
+        Check.due("its silver stays", x.silver(0), 860L * 925);
+        Check.due("the pot stays", x.mint(0, 0), 860);
+        Check.due("all stays", x.all(), 2 * 860L * 925);
+        Check.due("one that is not melted", x.open(1, 799), 1);
+    }
+
+    private static void bagsElsewhere() {
+        NewSilver x = Check.withSorts();
+        for (int l = 0; l < 3; l++) {
+            x.lot(Check.BAG, 0, 10, 860, 0, l);
+        }
+        x.pay(2, 1);
+        x.today(x.send(0, 0));
+        x.send(1, 0);
+        Check.due("one on a road", x.count(5), 1);
+        Check.due("one in a chest", x.count(6), 1);
+        Check.due("a bag at a mint", x.open(0, 799), 1);
+        Check.due("a bag on a road", x.open(1, 800), 0);
+        Check.due("a bag in a chest", x.open(2, 920), 0);
+        Check.due("opened, then melted", x.melt(0), 1);
+        Check.due("with the weight that was found", x.mint(0, 0), 799);
+        Check.due("opened, melted", x.open(0, 799), Check.STATE);
     }
 
     private static int bagOpened(int weight) {
