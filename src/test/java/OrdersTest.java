@@ -1,11 +1,7 @@
 import java.util.Random;
-import java.util.regex.Matcher;
-import java.util.regex.Pattern;
 
 /** Promises 8 to 13. */
 public final class OrdersTest {
-    private static final Pattern CLAUSE = Pattern.compile("[0-7] is (out|[0-9]{1,3}( by weight [1-9][0-9]{0,3})?)");
-
     public static void main(String[] args) {
         bytesFed();
         feedRefused();
@@ -100,41 +96,6 @@ public final class OrdersTest {
         fault("0 is 1\u00b1", 6);
     }
 
-    /** The first place behind which no order can follow, found by a pattern that may still grow. */
-    private static int faultByPattern(String text) {
-        for (int n = 1; n <= text.length(); n++) {
-            if (!mayBegin(text.substring(0, n))) {
-                return n - 1;
-            }
-        }
-        String[] clauses = text.split(";", -1);
-        return CLAUSE.matcher(clauses[clauses.length - 1]).matches() ? -1 : text.length();
-    }
-
-    private static boolean mayBegin(String text) {
-        String[] clauses = text.split(";", -1);
-        if (clauses.length > 6) {
-            return false;
-        }
-        String seen = "";
-        for (int i = 0; i < clauses.length; i++) {
-            Matcher m = CLAUSE.matcher(clauses[i]);
-            boolean whole = m.matches();
-            boolean begun = i == clauses.length - 1 && (m.hitEnd() || whole);
-            if (!whole && !begun) {
-                return false;
-            }
-            if (!clauses[i].isEmpty()) {
-                String sort = clauses[i].substring(0, 1);
-                if (seen.contains(sort)) {
-                    return false;
-                }
-                seen += sort;
-            }
-        }
-        return true;
-    }
-
     private static void faultsAgainstPattern() {
         Random random = new Random(7);
         String[] parts = {"0", "1", "2", "7", "8", " is ", " is ", " is ", "out", "12", "5", ";", ";", ";",
@@ -147,7 +108,7 @@ public final class OrdersTest {
                 text.append(parts[random.nextInt(parts.length)]);
             }
             if (text.length() > 0 && text.length() <= 160) {
-                fault(text.toString(), faultByPattern(text.toString()));
+                fault(text.toString(), FaultByPattern.of(text.toString()));
             }
         }
     }
@@ -159,7 +120,7 @@ public final class OrdersTest {
             NewSilver x = new NewSilver();
             Check.order(x, text);
             String begun = text.substring(0, n);
-            int fault = faultByPattern(begun);
+            int fault = FaultByPattern.of(begun);
             Check.due("order '" + begun + "' after a longer one", Check.order(x, begun), fault < 0 ? 1 : -10 - fault);
         }
     }
