@@ -26,7 +26,10 @@ final class Edges {
         changesNothing(what, realm, call, refusal);
     }
 
-    /** The call answers so, and then no call can tell the realm from another in which it was not made. */
+    /**
+     * The call answers so, and then no look tells the realm from another in which it was not made. Where there are
+     * thirty lots the looks can't see the sorts' numbers, and with ten orders of the tape only its length.
+     */
     static void changesNothing(String what, Supplier<NewSilver> realm, Call call, long want) {
         for (Function<NewSilver, String> look : LOOKS) {
             NewSilver touched = realm.get();
