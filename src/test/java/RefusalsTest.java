@@ -3,6 +3,7 @@ import java.util.Random;
 /**
  * Calls at random, with numbers from within and far beyond their bounds: none throws, what is
  * refused changes nothing that can be seen, and silver is kept but where a lot comes or a bag is opened.
+ * Its looks take an object far beyond 512 calls, where the document promises nothing more: this class goes on as before.
  */
 public final class RefusalsTest {
     private static final int[] EDGES = {Integer.MIN_VALUE, Integer.MIN_VALUE + 1, -1000, -2, -1, 0, 1, 2, 3, 5, 6, 7, 8,
