@@ -1,4 +1,6 @@
 import java.io.IOException;
+import java.lang.reflect.Constructor;
+import java.lang.reflect.Field;
 import java.lang.reflect.Method;
 import java.lang.reflect.Modifier;
 import java.nio.file.Files;
@@ -67,8 +69,28 @@ public final class FaceTest {
             && face.getConstructors()[0].getParameterCount() == 0);
         for (Class<?> inside : face.getDeclaredClasses()) {
             Check.holds(inside + " is static", Modifier.isStatic(inside.getModifiers()));
+            Check.holds(inside + " is no public one", !Modifier.isPublic(inside.getModifiers()));
+            sizes(inside);
         }
+        sizes(face);
         Check.holds("some twelve classes at most", face.getDeclaredClasses().length < 12);
+    }
+
+    /** Rules 5 and 11 of LANGUAGE.md. */
+    private static void sizes(Class<?> one) {
+        int fields = 0;
+        for (Field f : one.getDeclaredFields()) {
+            boolean constant = Modifier.isStatic(f.getModifiers());
+            Check.holds(f + " does not change", !constant || Modifier.isFinal(f.getModifiers()));
+            fields += constant ? 0 : 1;
+        }
+        Check.holds(one + " has some twenty fields at most", fields <= 20);
+        for (Method m : one.getDeclaredMethods()) {
+            Check.holds(m + " takes seven at most", m.getParameterCount() <= 7);
+        }
+        for (Constructor<?> c : one.getDeclaredConstructors()) {
+            Check.holds(c + " takes seven at most", c.getParameterCount() <= 7);
+        }
     }
 
     private static void language(String source) {

@@ -88,9 +88,9 @@ public final class WholeRunsTest {
         }
     }
 
-    private long ask(String name, Object... args) {
+    private void ask(String name, Object... args) {
         if (!same || calls >= CALLS) {
-            return 0;
+            return;
         }
         calls++;
         long due = answer(SECOND.get(name), second, args);
@@ -98,7 +98,6 @@ public final class WholeRunsTest {
         Check.due("run " + seed + ", call " + calls + ": " + name + Arrays.toString(args), got, due);
         same = got == due;
         MET.computeIfAbsent(name, n -> new TreeSet<>()).add(due);
-        return due;
     }
 
     private void play() {
